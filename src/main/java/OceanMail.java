@@ -238,10 +238,8 @@ public final class OceanMail {
         }
         if (truth) {
             course.bringUpToDate(books);
-            post.takeTrueTimes(books, course);
-        } else {
-            post.takeTimetable(books);
         }
+        post.layOut(books, course, truth);
         int hour = post.firstComing(books, a, b, h);
         if (hour != NONE) {
             post.reckonLatest(books, b, hour);
@@ -256,10 +254,8 @@ public final class OceanMail {
         }
         if (truth) {
             course.bringUpToDate(books);
-            post.takeTrueTimes(books, course);
-        } else {
-            post.takeTimetable(books);
         }
+        post.layOut(books, course, truth);
         post.reckonLatest(books, b, h);
         return post.latestFrom(a, post.rounds);
     }
@@ -1025,21 +1021,22 @@ public final class OceanMail {
             rideCount = 0;
         }
 
-        void takeTimetable(Books books) {
+        void layOut(Books books, Course course, boolean truth) {
             for (int v = 0; v < books.voyageCount; v++) {
-                Voyage voyage = books.voyages[v];
-                for (int i = 0; i <= voyage.legs; i++) {
-                    comes[v * MOST_PLACES + i] = voyage.comesTo(i) ? voyage.dueCome[i] : NONE;
-                    leaves[v * MOST_PLACES + i] = voyage.leavesFrom(i) ? voyage.dueLeave[i] : NONE;
+                Sailing sailing = course.sailings[v];
+                if (truth) {
+                    layOutRow(v, books.voyages[v], sailing.come, sailing.leave);
+                } else {
+                    layOutRow(v, books.voyages[v], books.voyages[v].dueCome, books.voyages[v].dueLeave);
                 }
             }
         }
 
-        void takeTrueTimes(Books books, Course course) {
-            for (int v = 0; v < books.voyageCount; v++) {
-                Sailing sailing = course.sailings[v];
-                System.arraycopy(sailing.come, 0, comes, v * MOST_PLACES, MOST_PLACES);
-                System.arraycopy(sailing.leave, 0, leaves, v * MOST_PLACES, MOST_PLACES);
+        /** No voyage comes to its first place or leaves its last one, whatever its rows hold there. */
+        private void layOutRow(int v, Voyage voyage, int[] come, int[] leave) {
+            for (int i = 0; i <= voyage.legs; i++) {
+                comes[v * MOST_PLACES + i] = voyage.comesTo(i) ? come[i] : NONE;
+                leaves[v * MOST_PLACES + i] = voyage.leavesFrom(i) ? leave[i] : NONE;
             }
         }
 

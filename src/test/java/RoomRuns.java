@@ -50,12 +50,10 @@ public final class RoomRuns {
 
     private static void tell(OceanMail x, int line) {
         for (int k = 0; k < 10; k++) {
-            if (k == 0) x.feed(word("W999"), word("9:m<"), word("12&("), word("t<99"), word("|l<9"));
-            else x.feed(word("|t<9"), word("|l=9"), word("|t<7"), word("|l>9"), word("|m>1"));
+            if (k == 0) x.feed(word("W999"), word("9:m<"), word("12&t"), word("<999"), word("|l<9"));
+            else x.feed(word("|t=9"), word("|l=9"), word("|t=7"), word("|l=5"), word("&m>1"));
         }
-        x.contract(line, 200);
-        x.feed(word("W999"), word("9:m<"), word("12&t"), word(">-1|"), word("!t<9"));
-        x.contract(line, 20);
+        if (x.contract(line, 200) != 1) throw new IllegalStateException("a fault at " + x.fault(1));
     }
 
     private static int word(String four) {
