@@ -813,6 +813,16 @@ public final class EdgeRuns {
         excuse(x, "W7:m=0;X:k=2&t=7", 2);
         excuse(x, "W7:m=0;X:k=2&t=0", 0);
         excuse(x, "W0:m=0;X:k=2&t=0", 2);
+        sentence(9, "X: t of v, though others wait meanwhile");
+        // Voyage 1 waits from 10 to 15; voyage 2 leaves in 0 behind no waiting and comes in 20.
+        OceanMail y = pair(10, 900, "W5:m=0;X:t=0");
+        y.voyage(2, 1, 10, 1, 0);
+        y.leg(2, 1);
+        y.broken(2, 0, 17);
+        y.broken(1, 0, 1);
+        due("it comes", y.truth(2, 1, 0), 20);
+        due("nobody's of the one that has not waited", y.share(2, 1, -1), 17);
+        due("nobody's of the one that has", y.share(1, 1, -1), 0);
     }
 
     private static void excuseWindAndBreak() {
@@ -1067,6 +1077,11 @@ public final class EdgeRuns {
         hop(z, 0, 1, 10);
         int[][] asked = {{0, 11}, {10, 11}, {11, 21}, {20, 21}, {21, 31}, {30, 31}, {31, -1}};
         for (int[] a : asked) due("from hour " + a[0], z.first(0, 1, a[0], false), a[1]);
+        OceanMail earlier = new OceanMail();
+        for (int start = 12; start >= 10; start--) {
+            hop(earlier, 0, 1, start);
+            due("an hour earlier by " + start, earlier.first(0, 1, 0, false), start + 1);
+        }
         sentence(16, "LAST HOUR: the greatest h by which it can come there in a told hour or ahead");
         int[][] by = {{10, -1}, {11, 10}, {12, 10}, {20, 10}, {21, 20}, {30, 20}, {31, 30}, {32, 30}, {20000, 30}};
         for (int[] b : by) due("by hour " + b[0], z.last(0, 1, b[0], false), b[1]);
@@ -1112,6 +1127,10 @@ public final class EdgeRuns {
         y.broken(0, 1, 1);
         due("it comes in 20001", y.first(1, 2, 0, true), -1);
         due("the last hour by 20000", y.last(1, 2, 20000, true), -1);
+        hop(y, 2, 3, 50);
+        due("what does not come goes no further", y.first(1, 3, 0, true), -1);
+        due("nor has it a last hour", y.last(1, 3, 20000, true), -1);
+        due("another one does", y.first(2, 3, 50, true), 51);
     }
 
     private static void ridesAre(OceanMail x, int... parts) {
@@ -1153,6 +1172,7 @@ public final class EdgeRuns {
         due("from 2 it can go ashore at 4", z.first(2, 0, 6, false), 7);
         ridesAre(z, 0, 3, 4);
         ridesOneByOne();
+        ridesThatCanBe();
         ridesUntilTheNext();
     }
 
@@ -1176,6 +1196,35 @@ public final class EdgeRuns {
         ridesAre(y, 0, 0, 1, 1, 0, 1, 2, 0, 1, 3, 0, 1, 4, 0, 1, 5, 0, 1, 6, 0, 1);
         due("the last hour", y.last(0, 7, 13, true), 0);
         due("the last hour", y.last(0, 7, 12, true), -1);
+    }
+
+    private static void ridesThatCanBe() {
+        sentence(17, "RIDES: ashore from the hour behind its coming on");
+        // Voyage 0 leaves port 1 in the hour in which voyage 1 comes there.
+        OceanMail x = new OceanMail();
+        hop(x, 1, 2, 11);
+        hop(x, 0, 1, 10);
+        hop(x, 1, 2, 12);
+        due("two rides", x.first(0, 2, 0, false), 13);
+        ridesAre(x, 1, 0, 1, 2, 0, 1);
+        sentence(17, "RIDES: ashore at a later PLACE than aboard");
+        // Voyage 0 lies in port 0 from 3 to 10; voyage 1 leaves there in 4, ahead of the letter of hour 5.
+        OceanMail y = new OceanMail();
+        y.passage(3, 0, 10);
+        y.passage(0, 1, 10);
+        y.passage(0, 2, 160);
+        y.passage(1, 2, 10);
+        y.voyage(0, 3, 10, 7, 2);
+        y.leg(0, 0);
+        y.leg(0, 1);
+        y.voyage(0, 0, 10, 1, 4);
+        y.leg(1, 2);
+        y.voyage(0, 1, 10, 1, 20);
+        y.leg(2, 3);
+        due("in hour 4", y.first(0, 2, 4, false), 20);
+        ridesAre(y, 1, 0, 1);
+        due("in hour 5", y.first(0, 2, 5, false), 21);
+        ridesAre(y, 0, 1, 2, 2, 0, 1);
     }
 
     private static void ridesUntilTheNext() {
@@ -1454,6 +1503,7 @@ public final class EdgeRuns {
         due("all 20", told(x, 0, "P1;P22;P333;W4:l<567"), 4);
         due("all 200", told(x, 0, "P9;" + "X:m=0" + times("|m=0", 48)), 2);
         faultyContract();
+        contractsAnew();
         faultCalls();
     }
 
@@ -1471,6 +1521,18 @@ public final class EdgeRuns {
         x.broken(1, 0, 3);
         due("nobody's", x.share(1, 1, -1), 3);
         due("the tape is filled anew", x.feed(0, 0, 0, 0, 0), 20);
+    }
+
+    private static void contractsAnew() {
+        sentence(9, "the CONTRACT of a LINE from now on: full TEXTS, again and again");
+        OceanMail x = pair(10, 900, "");
+        for (int turn = 1; turn <= 12; turn++) {
+            String text = "W" + turn + ":m=1" + times("|m=1", 47) + "|m=0";
+            due("contract " + text, told(x, 2, text), 1);
+            due("waited", x.truth(1, 0, 2), turn);
+            due("a faulty one", told(x, 2, text + ";"), -2);
+            due("waited", x.truth(1, 0, 2), turn);
+        }
     }
 
     private static void faultCalls() {
