@@ -2,6 +2,7 @@ import java.lang.reflect.Constructor;
 import java.lang.reflect.Field;
 import java.lang.reflect.Method;
 import java.lang.reflect.Modifier;
+import java.util.Arrays;
 import java.util.TreeSet;
 
 /** Each promise by small cases that were reckoned by hand: ordinary ones, the edges, wrong inputs. */
@@ -1028,20 +1029,29 @@ public final class PromiseRuns {
         for (Method m : OceanMail.class.getDeclaredMethods()) {
             if (Modifier.isPrivate(m.getModifiers())) continue;
             due("public " + m.getName(), Modifier.isPublic(m.getModifiers()), true);
-            seen.add(m.getName() + m.getParameterCount());
+            due("static " + m.getName(), Modifier.isStatic(m.getModifiers()), false);
+            seen.add(m.getReturnType() + " " + m.getName() + Arrays.toString(m.getParameterTypes()));
             names.add(m.getName());
         }
         for (Method m : OceanMail.class.getDeclaredMethods()) {
             if (Modifier.isPrivate(m.getModifiers())) due("a private " + m.getName(), names.contains(m.getName()), false);
         }
-        String all = "[broken3, contract2, count1, due3, fault1, feed5, first4, last4, leg2, look2, meet4, owed1, passage3, ride2, share3, truth3, voyage5, wind3]";
-        due("the methods " + seen, seen.toString().equals(all), true);
+        String[] all = {
+            "int feed[int, int, int, int, int]", "int passage[int, int, int]", "boolean wind[int, int, double]",
+            "int voyage[int, int, int, int, int]", "int leg[int, int]", "boolean broken[int, int, int]",
+            "boolean meet[int, int, int, int]", "int contract[int, int]", "int fault[int]", "int due[int, int, int]",
+            "int truth[int, int, int]", "int share[int, int, int]", "long owed[int]", "int first[int, int, int, boolean]",
+            "int last[int, int, int, boolean]", "int ride[int, int]", "int look[int, int]", "int count[int]"};
+        due("the methods " + seen, seen.equals(new TreeSet<>(Arrays.asList(all))), true);
         for (Field f : OceanMail.class.getDeclaredFields()) {
             due("field " + f.getName(), Modifier.isPrivate(f.getModifiers()), !f.getName().equals("NONE"));
         }
+        due("NONE", OceanMail.NONE, -1);
         Constructor<?>[] constructors = OceanMail.class.getDeclaredConstructors();
         due("constructors", constructors.length, 1);
         due("public", Modifier.isPublic(constructors[0].getModifiers()), true);
+        due("without parameters", constructors[0].getParameterCount(), 0);
+        due("a public class", Modifier.isPublic(OceanMail.class.getModifiers()), true);
         due("final", Modifier.isFinal(OceanMail.class.getModifiers()), true);
     }
 }
